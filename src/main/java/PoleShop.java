@@ -332,7 +332,7 @@ public final class PoleShop {
             int result = a;
             int power = b;
             for (int bit = 0; bit < EXPONENT_BITS; bit++) {
-                if ((MODULUS - 2 >> bit & 1) == 1) {
+                if (((MODULUS - 2) >> bit & 1) == 1) {
                     result = result * power % MODULUS;
                 }
                 power = power * power % MODULUS;
@@ -528,7 +528,7 @@ public final class PoleShop {
             }
         }
 
-        /** Rows for columns: to see this plant is to steer the other one. */
+        /** Rows for columns, as far as steering needs them: to steer this plant is to see the other one. */
         void beTurned(Plant plant) {
             n = plant.n;
             for (int i = 0; i < n; i++) {
@@ -536,9 +536,7 @@ public final class PoleShop {
                     square[i][j] = plant.square[j][i];
                 }
                 column[i] = plant.row[i];
-                row[i] = plant.column[i];
             }
-            through = plant.through;
         }
     }
 

@@ -30,6 +30,7 @@ public final class PromiseTest {
         promise8Clear();
         promise9Placed();
         promise10Joined();
+        promise10JoinedOfAChain();
         promise10JoinedRefusals();
         promise11At();
         promise12Order();
@@ -43,6 +44,7 @@ public final class PromiseTest {
         promise21And22Cost();
         promise21And22CostRefusals();
         promise23And24Least();
+        order8();
         eachSystemByItself();
         questionsChangeNothing();
         CHECK.end("PromiseTest");
@@ -380,6 +382,20 @@ public final class PromiseTest {
                     () -> shop.polynomial(1, p, false));
         }
         answers("10: its least order is that of the system", 2, () -> shop.least(1));
+    }
+
+    private static void promise10JoinedOfAChain() {
+        PoleShop shop = withPoles(new PoleShop(), 1, 2, 3, 4);
+        make(shop, 2, 0, 1, 0, 0, 0, 1, 1, 0, 0);
+        answers("10: joined of a chain", 1, () -> shop.joined(0));
+        whole("10: joined of a chain", shop, 1,
+                0, 1, 0, 0,
+                0, 0, -2, 3,
+                -7, 0, 7, 1,
+                12, 0, -14, 3,
+                0, 1, 0, 1,
+                1, 0, 0, 0,
+                0);
     }
 
     private static void promise10JoinedRefusals() {
@@ -742,6 +758,7 @@ public final class PromiseTest {
         shop.join(0, 1, false);
         answers(what + " of one that nothing is seen of and another", 1, () -> least.of(shop, 6));
         answers(what + " of order 8", 8, () -> least.of(chain(), 1));
+        answers(what + " of eight poles side by side", 8, () -> least.of(eightPoles(), 2));
         for (int system : new int[] {-1, 7, 12, LOW, HIGH}) {
             refuses(what + " of " + system, NO_PLACE, () -> least.of(shop, system));
         }
@@ -749,7 +766,42 @@ public final class PromiseTest {
         answers(what + " of two in series that share a pole", 2, () -> least.of(shop, 7));
     }
 
+    /** A workshop whose system 2 has the numerators 1 over the poles 1 to 8: Euclid takes eight turns. */
+    private static PoleShop eightPoles() {
+        PoleShop shop = new PoleShop();
+        make(shop, 4, 1, 0, 0, 0, 0, 2, 0, 0, 0, 0, 3, 0, 0, 0, 0, 4, 1, 1, 1, 1, 1, 1, 1, 1, 0);
+        make(shop, 4, 5, 0, 0, 0, 0, 6, 0, 0, 0, 0, 7, 0, 0, 0, 0, 8, 1, 1, 1, 1, 1, 1, 1, 1, 0);
+        shop.join(0, 1, false);
+        return shop;
+    }
+
     // ---- what holds for all
+
+    /** In a chain of 8 delays every answer can be seen without reckoning. */
+    private static void order8() {
+        PoleShop shop = withInputs(chain(), 5, 6);
+        answers("8 delays: output at 8", 5, () -> shop.output(1, 8));
+        answers("8 delays: outputAnew at 9", 6, () -> shop.outputAnew(1, 9));
+        answers("8 delays: output at 10", 0, () -> shop.output(1, 10));
+        for (int steps = 0; steps <= 20; steps++) {
+            int s = steps;
+            answers("8 delays: cost of " + s, Math.min(s + 1, 8), () -> shop.cost(1, 1, 1, s));
+            answers("8 delays: costAnew of " + s, Math.min(s + 1, 8), () -> shop.costAnew(1, 1, 1, s));
+        }
+        answers("8 delays: loop", 2, () -> shop.loop(1, 7));
+        polynomial("8 delays: polynomial of the loop", shop, 2, false, 7, 0, 0, 0, 0, 0, 0, 0, 1);
+        withPoles(shop, 1, 1, 1, 1, 1, 1, 1);
+        refuses("8 delays: placed with 7 poles", BAD_STATE, () -> shop.placed(1));
+        shop.pole(1);
+        int[] due = {-8, 28, -56, 70, -56, 28, -8, 1};
+        for (int place = 0; place < 8; place++) {
+            int p = place;
+            answers("8 delays: gain " + p, Math.floorMod(due[p], 10007), () -> shop.gain(1, p));
+            answers("8 delays: gainAnew " + p, Math.floorMod(due[p], 10007), () -> shop.gainAnew(1, p));
+        }
+        answers("8 delays: placed", 3, () -> shop.placed(1));
+        polynomial("8 delays: polynomial of the placed one", shop, 3, false, 1, -8, 28, -56, 70, -56, 28, -8, 1);
+    }
 
     private static void eachSystemByItself() {
         PoleShop shop = withPoles(example(), 1, 2, 3, 4);
