@@ -4,16 +4,7 @@ import java.util.Arrays;
  * The promises, one method each: ordinary inputs, the edges that the document names, and wrong inputs.
  * The numbers that are due are reckoned by hand; most belong to the system of example().
  */
-public final class PromiseTest {
-    private static final Class<IndexOutOfBoundsException> NO_PLACE = IndexOutOfBoundsException.class;
-    private static final Class<IllegalArgumentException> BAD_ARGUMENT = IllegalArgumentException.class;
-    private static final Class<IllegalStateException> BAD_STATE = IllegalStateException.class;
-    private static final int SQUARE = PoleShop.SQUARE, COLUMN = PoleShop.COLUMN, ROW = PoleShop.ROW,
-            THROUGH = PoleShop.THROUGH;
-    private static final int LOW = Integer.MIN_VALUE, HIGH = Integer.MAX_VALUE;
-
-    private static final Check CHECK = new Check();
-
+public final class PromiseTest extends Shops {
     private PromiseTest() {
     }
 
@@ -48,83 +39,6 @@ public final class PromiseTest {
         eachSystemByItself();
         questionsChangeNothing();
         CHECK.end("PromiseTest");
-    }
-
-    // ---- helpers
-
-    private static void answers(String what, int due, Check.Call call) {
-        CHECK.answers(what, due, call);
-    }
-
-    private static void refuses(String what, Class<? extends RuntimeException> due, Check.Call call) {
-        CHECK.refuses(what, due, call);
-    }
-
-    /** All numbers of a system in a row: the square by rows, the column, the row, and d. */
-    private static String whole(PoleShop shop, int system) {
-        int n = shop.order(system);
-        int[] all = new int[n * n + 2 * n + 1];
-        for (int i = 0; i < n; i++) {
-            for (int j = 0; j < n; j++) {
-                all[i * n + j] = shop.at(system, SQUARE, i, j);
-            }
-            all[n * n + i] = shop.at(system, COLUMN, i, 0);
-            all[n * n + n + i] = shop.at(system, ROW, 0, i);
-        }
-        all[n * n + 2 * n] = shop.at(system, THROUGH, 0, 0);
-        return Arrays.toString(all);
-    }
-
-    private static void whole(String what, PoleShop shop, int system, int... due) {
-        int[] remainders = new int[due.length];
-        for (int i = 0; i < due.length; i++) {
-            remainders[i] = Math.floorMod(due[i], 10007);
-        }
-        CHECK.same(what, Arrays.toString(remainders), whole(shop, system));
-    }
-
-    /** A system of the order, its numbers told as whole() tells them. */
-    private static int make(PoleShop shop, int n, int... numbers) {
-        int system = shop.system(n);
-        for (int i = 0; i < n; i++) {
-            for (int j = 0; j < n; j++) {
-                shop.set(system, SQUARE, i, j, numbers[i * n + j]);
-            }
-            shop.set(system, COLUMN, i, 0, numbers[n * n + i]);
-            shop.set(system, ROW, 0, i, numbers[n * n + n + i]);
-        }
-        shop.set(system, THROUGH, 0, 0, numbers[n * n + 2 * n]);
-        return system;
-    }
-
-    /** A workshop whose system 0 has A 1 2, 3 4, b 1 0, c 0 1 and d 0. */
-    private static PoleShop example() {
-        PoleShop shop = new PoleShop();
-        make(shop, 2, 1, 2, 3, 4, 1, 0, 0, 1, 0);
-        return shop;
-    }
-
-    private static PoleShop withPoles(PoleShop shop, int... poles) {
-        for (int pole : poles) {
-            shop.pole(pole);
-        }
-        return shop;
-    }
-
-    private static PoleShop withInputs(PoleShop shop, int... inputs) {
-        for (int input : inputs) {
-            shop.input(input);
-        }
-        return shop;
-    }
-
-    /** Systems of order 1 until there are 12. */
-    private static PoleShop full(PoleShop shop) {
-        int last = shop.system(1);
-        while (last < 11) {
-            last = shop.system(1);
-        }
-        return shop;
     }
 
     // ---- promises
@@ -461,13 +375,6 @@ public final class PromiseTest {
         }
     }
 
-    private static void polynomial(String what, PoleShop shop, int system, boolean isNumerator, int... due) {
-        for (int power = 0; power < due.length; power++) {
-            int p = power;
-            answers(what + " at " + p, Math.floorMod(due[p], 10007), () -> shop.polynomial(system, p, isNumerator));
-        }
-    }
-
     private static void promise13Polynomial() {
         PoleShop shop = example();
         polynomial("13: polynomial", shop, 0, false, -2, -5, 1);
@@ -647,14 +554,6 @@ public final class PromiseTest {
         for (int system : new int[] {-1, 3, LOW, HIGH}) {
             refuses("20: system " + system, NO_PLACE, () -> shop.observer(system, 0));
         }
-    }
-
-    /** A workshop whose system 1 is a chain of 8 delays. */
-    private static PoleShop chain() {
-        PoleShop shop = new PoleShop();
-        make(shop, 4, 0, 0, 0, 0, 1, 0, 0, 0, 0, 1, 0, 0, 0, 0, 1, 0, 1, 0, 0, 0, 0, 0, 0, 1, 0);
-        shop.join(0, 0, true);
-        return shop;
     }
 
     private static void promise20ObserverOf8() {
