@@ -56,8 +56,10 @@ public final class FaceTest {
     public static void main(String[] args) throws IOException {
         members();
         nested();
-        CHECK.holds("the source is told", args.length == 1);
-        source(Files.readString(Path.of(args[0])));
+        CHECK.holds("the source and the document are told", args.length == 2);
+        String text = Files.readString(Path.of(args[0]));
+        source(text);
+        asTheDocumentHasIt(Files.readString(Path.of(args[1])), text.replaceAll("\\s+", " "));
         CHECK.end("FaceTest");
     }
 
@@ -135,6 +137,18 @@ public final class FaceTest {
                 CHECK.holds("rule 11: " + method, method.getParameterCount() <= 7);
             }
         }
+    }
+
+    /** Line by line, with the names of the parameters and the values of the constants. */
+    private static void asTheDocumentHasIt(String document, String flat) {
+        int lines = 0;
+        Matcher line = Pattern.compile("(?m)^    (public [^\n]*);$").matcher(document);
+        while (line.find()) {
+            String due = line.group(1) + (line.group(1).contains("(") ? " {" : ";");
+            CHECK.holds("as the document has it: " + due, flat.contains(due));
+            lines++;
+        }
+        CHECK.same("lines of the face", Integer.toString(METHODS.length + 3), Integer.toString(lines));
     }
 
     private static void source(String text) {
